@@ -391,20 +391,21 @@ public final class HuntedScent {
             return BAD;
         }
         Sheet sheet = sheets[k];
-        int ahead = notes.size, found = 0, came = 0;
-        while (came < n && found == 0) {
-            int cell = f + CELLS_OF_A_SMELT * came;
-            found = sheet.faultAs(lane, cell, CELLS_OF_A_SMELT);
-            if (found == 0) {
-                if (smelt(sheet.valueOf(cell), sheet.valueOf(cell + 1), sheet.valueOf(cell + 2)) < 0) {
-                    notes.cut(ahead);
-                    return -20 - came;
-                }
-                came++;
+        int ahead = notes.size;
+        for (int i = 0; i < n; i++) {
+            int cell = f + CELLS_OF_A_SMELT * i;
+            int fault = sheet.faultAs(lane, cell, CELLS_OF_A_SMELT);
+            if (fault != 0) {
+                torn = fault;
+                return i;
+            }
+            if (smelt(sheet.valueOf(cell), sheet.valueOf(cell + 1), sheet.valueOf(cell + 2)) < 0) {
+                notes.cut(ahead);
+                return -20 - i;
             }
         }
-        torn = found;
-        return came;
+        torn = 0;
+        return n;
     }
 
     public int torn() {
@@ -447,7 +448,7 @@ public final class HuntedScent {
 
     private static int leastOf(int bits) {
         for (int i = 0; i < MOST_NODES; i++) {
-            if (isIn(bits, i)) {
+            if ((bits >> i & 1) != 0) {
                 return i;
             }
         }
@@ -759,7 +760,8 @@ public final class HuntedScent {
         private static final int END = 0, NAME = 1, NUMBER = 2, SIGN = 3, BLANK = 4, STRANGE = 5;
         private static final int MOST_FIGURES = 2;
         private static final int NODES_TOLD = 1, REST_TOLD = 2, START_TOLD = 4;
-        private static final int NO_TOKEN = 1, MISPLACED = 2, OUT_OF_BOUNDS = 3, TWICE = 4, TOO_MANY = 5, NO_NODE = 6;
+        private static final int NO_TOKEN = 1, MISPLACED = 2, OUT_OF_BOUNDS = 3;
+        private static final int TWICE = 4, TOO_MANY = 5, NO_NODE = 6;
 
         private final int[] tape = new int[TAPE_BYTES];
         private final Net net = new Net();
