@@ -616,8 +616,10 @@ public final class HuntedScent {
         /** The smells behind a move to a node; ahead and behind may be the same row. */
         private static void pass(int[] ahead, int[] behind, int node, int water) {
             for (int i = 0; i < MOST_NODES && i < ahead.length && i < behind.length; i++) {
-                int faded = fadedOf(ahead[i]);
-                behind[i] = i == node ? freshenedOf(faded, isIn(water, i)) : faded;
+                behind[i] = fadedOf(ahead[i]);
+            }
+            if (node >= 0 && node < behind.length) {
+                behind[node] = freshenedOf(behind[node], isIn(water, node));
             }
         }
 

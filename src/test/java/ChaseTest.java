@@ -80,6 +80,8 @@ public final class ChaseTest {
     }
 
     private static void changes() {
+        CHECK.due("flees asked first", Check.told("lane 0 1 2;rest;").flees(1, 0, 0), 2);
+        CHECK.due("best asked first", Check.told("nodes 4;rest;lane 0 1 2 3;").best(1), 1);
         HuntedScent x = Check.told("lane 0 1 2 3 4;");
         CHECK.due("a row", x.caught(4, 0, 0), 3);
         x.join(0, 4, true);

@@ -293,9 +293,14 @@ public final class RandomRunsTest {
     private void chaseCall(String where) {
         int fox = node(), a = node(), b = node(), what = number(0, 1);
         String told = fox + " " + a + " " + b;
-        due(where + "caught " + told, x.caught(fox, a, b), o.caught(fox, a, b));
-        due(where + "flees " + told, x.flees(fox, a, b), o.flees(fox, a, b));
-        due(where + "best " + what, x.best(what), o.best(what));
+        int first = below(3);
+        for (int i = first; i < first + 3; i++) {
+            switch (i % 3) {
+                case 0: due(where + "caught " + told, x.caught(fox, a, b), o.caught(fox, a, b)); break;
+                case 1: due(where + "flees " + told, x.flees(fox, a, b), o.flees(fox, a, b)); break;
+                default: due(where + "best " + what, x.best(what), o.best(what)); break;
+            }
+        }
     }
 
     private void holesCall(String where) {
