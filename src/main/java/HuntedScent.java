@@ -1464,7 +1464,7 @@ public final class HuntedScent {
             int best = NONE, longest = NONE;
             for (int i = 0; i < net.nodes; i++) {
                 if (isIn(moves, i)) {
-                    int lasts = i == a || i == b ? 0 : lastsAt(i, a, b);
+                    int lasts = lastsAt(i, a, b);
                     if (lasts > longest) {
                         best = i;
                         longest = lasts;
@@ -1474,7 +1474,7 @@ public final class HuntedScent {
             return best;
         }
 
-        /** For how many turns more he is free, when it is the hounds' turn to go. */
+        /** Turns more till he is caught, when the hounds go next: 0 if he came to one, for it may stay. */
         private int lastsAt(int fox, int a, int b) {
             int nextA = reachOf(a), nextB = reachOf(b);
             int fewest = FOREVER;

@@ -66,6 +66,18 @@ public final class FoxTest {
         CHECK.due("moves", x.now(1), 3);
         CHECK.due("no lane", x.go(2), NONE);
         CHECK.due("no joined node", x.now(2), NONE);
+        HuntedScent y = Check.told("rest;lane 3 1;");
+        y.fox(1);
+        y.go(3);
+        for (int i = 0; i < 7; i++) {
+            y.go(3);
+        }
+        CHECK.due("nearly gone", y.smell(1), 1);
+        CHECK.due("but to be smelt", y.now(2), 1);
+        CHECK.due("on two nodes", y.count(1), 2);
+        y.go(3);
+        CHECK.due("gone", y.now(2), NONE);
+        CHECK.due("on one node", y.count(1), 1);
     }
 
     private static void water() {

@@ -11,6 +11,7 @@ public final class WaysTest {
         turnsThatAreNotCounted();
         water();
         whatChanges();
+        lastTurn();
         impossible();
         CHECK.done();
     }
@@ -116,6 +117,12 @@ public final class WaysTest {
         CHECK.due("none", x.can(3, 0), 0);
         CHECK.due("none", x.sure(3, 0), NONE);
         CHECK.due("none", x.way(3, 0), NONE);
+        HuntedScent w = Check.told("lane 3 4;smelt 2 4 9;");
+        CHECK.due("none: he came twice or had left", w.ways(2), 0);
+        w.forget(0);
+        w.smelt(2, 4, 16);
+        CHECK.due("the first begins in", w.way(2, 0), 4);
+        CHECK.due("and goes by", w.way(2, 1), 3);
         HuntedScent y = Check.told("rest;lane 0 1;start 0;smelt 2 0 18;");
         CHECK.due("18 is the most", y.ways(2), 1);
         CHECK.due("he stayed", y.way(2, 2), 0);
@@ -171,6 +178,19 @@ public final class WaysTest {
         x.forget(2);
         x.cannot();
         CHECK.due("ways of its own again", x.ways(2), 1);
+    }
+
+    /** The last turn of all is no other than the ones ahead of it. */
+    private static void lastTurn() {
+        HuntedScent x = Check.told("lane 0 1 2 3 4;start 2;");
+        x.smelt(5, 1, 9);
+        CHECK.due("once, at last", x.can(5, 5), 2);
+        x.forget(0);
+        x.smelt(5, 3, 9);
+        CHECK.due("on the other side", x.can(5, 5), 8);
+        CHECK.due("out of 2", x.can(5, 4), 4);
+        CHECK.due("one of two", x.ways(5), 2);
+        CHECK.due("the first", x.way(5, 1), 1);
     }
 
     private static void impossible() {
