@@ -542,7 +542,7 @@ public final class HuntedScent {
         }
 
         private int movesOf(int i) {
-            return i >= 0 && i < nodes ? joined[i] | rest << i : 0;
+            return has(i) ? joinedTo(i) | rest << i : 0;
         }
 
         private int movesOfAll(int bits) {
@@ -570,7 +570,7 @@ public final class HuntedScent {
         private int neighboursOfAll(int bits) {
             int found = 0;
             for (int i = 0; i < nodes; i++) {
-                found |= isIn(bits, i) ? joined[i] : 0;
+                found |= isIn(bits, i) ? joinedTo(i) : 0;
             }
             return found;
         }
@@ -1308,7 +1308,7 @@ public final class HuntedScent {
             int count = met;
             for (int c = 0; c < throwables && c < MOST_CASTS; c++) {
                 int after = laterOf(set & ~throwable[c]);
-                if (after > 0 && origin[after] == UNSEEN && count < NODE_SETS) {
+                if (after > 0 && after < NODE_SETS && origin[after] == UNSEEN && count < NODE_SETS) {
                     origin[after] = throwable[c] * NODE_SETS + set;
                     queue[count] = after;
                     count++;

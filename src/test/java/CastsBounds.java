@@ -15,6 +15,7 @@ final class CastsBounds {
         t.turns();
         t.wrongWhat();
         t.castOfHounds();
+        t.anotherNet();
         t.findsHim();
         t.stays();
         t.needs();
@@ -106,16 +107,37 @@ final class CastsBounds {
 
     private void castOfHounds() {
         b.says(24, "A CAST of k hounds: k unlike NODES (all NODES, if there are no more).");
-        for (int size = 2; size <= 6; size++) {
+        for (int size = 2; size <= 10; size++) {
             HuntedScent x = Check.told("nodes " + size + ";");
             for (int k = 1; k <= 5; k++) {
                 int least = (1 << Math.min(k, size)) - 1;
+                int last = least << size - Math.min(k, size);
+                b.due(k + " hounds, " + size + " nodes, a fox on one of the last", x.casts(k, last, 10), last);
                 b.due(k + " hounds, " + size + " nodes, a fox on 0", x.casts(k, 1, 10), least);
                 boolean isAll = k >= size;
                 b.due(k + " hounds, " + size + " nodes, on any", x.casts(k, (1 << size) - 1, 0), isAll ? 1 : (size + k - 1) / k);
                 b.due(k + " hounds, " + size + " nodes, on the last", x.casts(k, 1 << size - 1, 10), isAll ? least : least >> 1 | 1 << size - 1);
             }
         }
+    }
+
+    private void anotherNet() {
+        b.says(24, "A SURE row of CASTS of k hounds (1 to 5) for a fox on one of some NODES");
+        HuntedScent x = Check.told("nodes 10;");
+        b.due("five hounds", x.casts(5, 1023, 0), 2);
+        b.due("two hounds", x.casts(2, 1023, 0), 5);
+        b.due("turn 4 of five", x.casts(2, 1023, 14), 768);
+        b.due("other nodes", x.casts(2, 7, 0), 2);
+        x.keep(0);
+        x.join(0, 1, true);
+        x.join(1, 2, true);
+        b.due("with lanes", x.casts(1, 7, 11), 2);
+        b.due("they are two", x.casts(1, 7, 0), 2);
+        x.back(0);
+        b.due("without", x.casts(1, 7, 0), 3);
+        x.text();
+        b.due("five nodes", x.casts(1, 31, 0), 5);
+        b.due("and no more", x.casts(1, 32, 0), Bounds.BAD);
     }
 
     private void findsHim() {

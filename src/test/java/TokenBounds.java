@@ -199,6 +199,15 @@ final class TokenBounds {
         faulty("start 9;rest;rest;", TWICE, 13);
         faulty("smelt 0 9 0;".repeat(11), TOO_MANY, 120);
         faulty(". foo", NO_TOKEN, 0);
+        for (String line : LINES) {
+            String[] tokens = line.split(" ");
+            StringBuilder some = new StringBuilder();
+            for (String token : tokens) {
+                faulty(some + ".;.rest;", NO_TOKEN, some.length());
+                faulty(some + "123;rest;", NO_TOKEN, some.length());
+                some.append(token).append(' ');
+            }
+        }
     }
 
     private void noToken() {
@@ -228,6 +237,7 @@ final class TokenBounds {
             faulty(name + "s 1;", MISPLACED, 0);
             faulty(name.substring(0, name.length() - 1) + "z 1;", MISPLACED, 0);
             faulty("a" + name + " 1;", MISPLACED, 0);
+            faulty("a" + name.substring(1) + " 1;", MISPLACED, 0);
             faulty(name, MISPLACED, name.length());
             faulty("  " + name + "  ", MISPLACED, name.length() + 4);
         }

@@ -15,6 +15,8 @@ final class WaysBounds {
         t.smelts();
         t.forgets();
         t.manyWays();
+        t.manyThatFit();
+        t.anotherNet();
         t.fits();
         t.wrongTurns();
         t.canBe();
@@ -146,6 +148,59 @@ final class WaysBounds {
         z.smelt(5, 9, 17);
         b.due("the tenth does not, in turn 5", z.ways(5), 0);
         b.due("ahead of it nine do", z.ways(4), 1);
+    }
+
+    /** He was smelt in the last turns alone, so what he did ahead of them is open. */
+    private void manyThatFit() {
+        b.says(17, "WAYS of n TURNS (0 to 5) that FIT.");
+        HuntedScent x = Bounds.allJoined(10, "start 9;");
+        x.smelt(5, 0, 0);
+        b.due("never in 0", x.ways(5), 8 * 8 * 8 * 8 * 8);
+        x.smelt(5, 1, 9);
+        b.due("and in 1 at last, for the first time", x.ways(5), 7 * 7 * 7 * 7);
+        x.smelt(4, 2, 9);
+        b.due("and in 2 ahead of that, for the first time", x.ways(5), 6 * 6 * 6);
+        int[] first = {9, 3, 4, 3, 2, 1};
+        for (int t = 0; t <= 5; t++) {
+            b.due("the first of them: turn " + t, x.way(5, t), first[t]);
+        }
+        b.due("where he can be in turn 1", x.can(5, 1), 1023 & ~7 & ~512);
+        b.due("where he can be in turn 2", x.can(5, 2), 1023 & ~7);
+        b.due("of 4 turns", x.ways(4), 8 * 8 * 8);
+        b.due("of 3 turns", x.ways(3), 9 * 9 * 9);
+        b.due("of 5 turns again", x.can(5, 5), 2);
+        b.due("all that was smelt can be", x.cannot(), Bounds.NONE);
+        b.due("which was another question", x.ways(5), 6 * 6 * 6);
+    }
+
+    /** What was found for one net, one start, one smell does not stand for the next one. */
+    private void anotherNet() {
+        b.says(18, "NODES where he can be in TURN t by WAYS of n TURNS that FIT (bits).");
+        HuntedScent x = Bounds.row(5, "start 0;");
+        b.due("from 0", x.can(5, 5), 2 + 8);
+        x.keep(0);
+        x.start(4);
+        b.due("from 4", x.can(5, 5), 2 + 8);
+        b.due("turn 0", x.can(5, 0), 16);
+        x.smelt(5, 3, 9);
+        b.due("smelt in turn 5", x.can(5, 5), 0);
+        x.forget(0);
+        b.due("forgotten", x.can(5, 5), 2 + 8);
+        x.join(0, 1, false);
+        x.start(0);
+        b.due("a start without a lane", x.can(5, 0), 0);
+        b.due("nor a turn", x.can(5, 5), 0);
+        x.back(0);
+        b.due("as it was", x.can(5, 5), 2 + 8);
+        x.smelt(0, 0, 0);
+        b.due("it can not be", x.cannot(), 0);
+        b.due("so there is none", x.ways(5), 0);
+        x.forget(0);
+        x.smelt(1, 1, 9);
+        b.due("it can be", x.cannot(), Bounds.NONE);
+        b.due("all that can be so", x.can(5, 5), 2 + 8);
+        x.text();
+        b.due("no lanes, another text", x.can(5, 5), 0);
     }
 
     private void wrongTurns() {
